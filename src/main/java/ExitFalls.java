@@ -35,6 +35,7 @@ public final class ExitFalls {
     private static final int YEARS = 9;
     private static final int FACTS = 10;
     private static final int PREF = 10;
+    private static final int CARVE = 11;
 
     private static final int NO_TOKEN = 1;
     private static final int MISPLACED = 2;
@@ -194,7 +195,7 @@ public final class ExitFalls {
         if (!isAmount(amount)) {
             return NO_SUCH;
         }
-        fall.arrange(firm);
+        fall.arrange(firm, false, 0);
         int rank = fall.firstUnpaid(firm.fallsOf(amount) * 100L);
         return rank <= MOST_RANK ? rank : NONE;
     }
@@ -252,7 +253,7 @@ public final class ExitFalls {
     // ---- BREAKS
 
     public long breaks(int k, int what) {
-        fall.arrange(firm);
+        fall.arrange(firm, false, 0);
         breakList.list(fall);
         if (k == NONE) {
             return breakList.count;
@@ -267,7 +268,7 @@ public final class ExitFalls {
         if (!firm.isHolder(h) || k < 0 || !isAboveOrBelow(what)) {
             return NO_SUCH;
         }
-        fall.arrange(firm);
+        fall.arrange(firm, false, 0);
         breakList.list(fall);
         if (k > breakList.count) {
             return NO_SUCH;
@@ -282,7 +283,7 @@ public final class ExitFalls {
         if (!isAsked(h, amount) || !isAboveOrBelow(what)) {
             return NO_SUCH;
         }
-        fall.arrangeBy(firm, set);
+        fall.arrange(firm, true, set);
         fall.pour(firm.fallsOf(amount) * 100L);
         return Numbers.lowest(fall.aboveOf(h), fall.below, what);
     }
@@ -461,7 +462,7 @@ public final class ExitFalls {
     }
 
     private void pour(int amount) {
-        fall.arrange(firm);
+        fall.arrange(firm, false, 0);
         fall.pour(firm.fallsOf(amount) * 100L);
     }
 
@@ -472,7 +473,7 @@ public final class ExitFalls {
 
     /** The least AMOUNT by which a HOLDER has a fraction (more: has more than it); one too great if by none. */
     private int firstAmount(int h, long above, long below, boolean more) {
-        fall.arrange(firm);
+        fall.arrange(firm, false, 0);
         int low = 0;
         int high = MOST_AMOUNT + 1;
         // nobody has less by a greater AMOUNT, so halving finds the least
@@ -591,20 +592,8 @@ public final class ExitFalls {
             token = next - start <= MOST_DIGITS && !touched ? A_NUMBER : NOTHING_KNOWN;
         }
 
-        boolean isWord(String told) {
-            return token == A_WORD && word == numberOf(told);
-        }
-
         /** Words of seven letters at most, as numbers: unlike words are unlike numbers. */
-        private static long numberOf(String told) {
-            long sum = 0;
-            for (int i = 0; i < told.length(); i++) {
-                sum = withLetter(sum, told.charAt(i));
-            }
-            return sum;
-        }
-
-        private static long withLetter(long sum, int letter) {
+        static long withLetter(long sum, int letter) {
             return sum * 32 + (letter - 'a' + 1);
         }
 
@@ -623,15 +612,57 @@ public final class ExitFalls {
 
     /** Reads the TAPE as a TEXT into a draft, so that a FAULT leaves all else as it is. */
     private static final class Reader {
+        /** Those that begin a line come first, in the order of the kinds of HOLDERS. */
+        private static final String KEPT = "common option class carve at rank times ratio sharing cap yearly ";
+        private static final int KEPT_WORDS = 11;
+        private static final int CARVE_WORD = 3;
+        private static final int AT_WORD = 4;
+        private static final int RANK_WORD = 5;
+        private static final int TIMES_WORD = 6;
+        private static final int RATIO_WORD = 7;
+        private static final int SHARING_WORD = 8;
+        private static final int CAP_WORD = 9;
+        private static final int YEARLY_WORD = 10;
+
+        /** What stands behind a line's first word, four numbers for each: what it is, and
+         *  of a number: of which fact, its least, its most;
+         *  of a word: which, how many behind it are left out with it (0: it must stand). */
+        private static final int WIDTH = 4;
+        private static final int A_NAME = 5;
+        private static final int[] COMMON_LINE = {
+            A_NAME, 0, 0, 0, A_NUMBER, SHARES, 1, MOST_SHARES, A_SIGN, 0, 0, 0 };
+        private static final int[] OPTION_LINE = {
+            A_NAME, 0, 0, 0, A_NUMBER, SHARES, 1, MOST_SHARES,
+            A_WORD, AT_WORD, 0, 0, A_NUMBER, PRICE, 1, 999, A_SIGN, 0, 0, 0 };
+        private static final int[] CLASS_LINE = {
+            A_NAME, 0, 0, 0, A_NUMBER, SHARES, 1, MOST_SHARES,
+            A_WORD, AT_WORD, 0, 0, A_NUMBER, PRICE, 1, 99,
+            A_WORD, RANK_WORD, 0, 0, A_NUMBER, RANK, 0, MOST_RANK,
+            A_WORD, TIMES_WORD, 1, 0, A_NUMBER, TIMES, 0, MOST_TIMES,
+            A_WORD, RATIO_WORD, 1, 0, A_NUMBER, RATIO, 1, 400,
+            A_WORD, SHARING_WORD, 2, 0, A_WORD, CAP_WORD, 1, 0, A_NUMBER, CAP, 0, 2000,
+            A_WORD, YEARLY_WORD, 2, 0, A_NUMBER, RATE, 0, 30, A_NUMBER, YEARS, 0, MOST_YEARS,
+            A_SIGN, 0, 0, 0 };
+        private static final int[] CARVE_LINE = { A_NUMBER, CARVE, 0, 50, A_SIGN, 0, 0, 0 };
+
         private final Tape tape;
-        final Firm draft = new Firm();
+        private final long[] kept = new long[KEPT_WORDS];
         private final long[] names = new long[MOST_HOLDERS];
         private boolean carved;
+        final Firm draft = new Firm();
         int fault;
         int place = NONE;
 
         Reader(Tape read) {
             tape = read;
+            int word = 0;
+            for (int i = 0; i < KEPT.length() && word < KEPT_WORDS; i++) {
+                if (KEPT.charAt(i) == ' ') {
+                    word++;
+                } else {
+                    kept[word] = Tape.withLetter(kept[word], KEPT.charAt(i));
+                }
+            }
         }
 
         boolean readAll() {
@@ -649,133 +680,105 @@ public final class ExitFalls {
         }
 
         private boolean readLine() {
-            if (tape.isWord("common")) {
-                return readCommon();
+            int first = keptWord();
+            if (first == NONE || first > CARVE_WORD || first == CARVE_WORD && carved) {
+                return refuse(MISPLACED);
             }
-            if (tape.isWord("option")) {
-                return readOption();
-            }
-            if (tape.isWord("class")) {
-                return readClass();
-            }
-            return tape.isWord("carve") && !carved ? readCarve() : refuse(MISPLACED);
-        }
-
-        private boolean readCommon() {
-            return begin(COMMON, 3) && readFact(SHARES, 1, MOST_SHARES) && readSign();
-        }
-
-        private boolean readOption() {
-            return begin(OPTION, 3) && readFact(SHARES, 1, MOST_SHARES)
-                && readWord("at") && readFact(PRICE, 1, 999) && readSign();
-        }
-
-        private boolean readClass() {
-            return begin(CLASS, MOST_CLASSES) && readFact(SHARES, 1, MOST_SHARES)
-                && readWord("at") && readFact(PRICE, 1, 99)
-                && readWord("rank") && readFact(RANK, 0, MOST_RANK)
-                && readIfTold("times", TIMES, 0, MOST_TIMES)
-                && readIfTold("ratio", RATIO, 1, 400)
-                && readSharing() && readYearly() && readSign();
-        }
-
-        private boolean readSharing() {
-            if (!tape.isWord("sharing")) {
-                return true;
-            }
-            tape.scan();
-            draft.put(draft.count - 1, SHARING, 1);
-            return readIfTold("cap", CAP, 0, 2000);
-        }
-
-        private boolean readYearly() {
-            if (!tape.isWord("yearly")) {
-                return true;
-            }
-            tape.scan();
-            return readFact(RATE, 0, 30) && readFact(YEARS, 0, MOST_YEARS);
-        }
-
-        private boolean readCarve() {
-            tape.scan();
-            carved = true;
-            if (!isNumber(0, 50)) {
-                return false;
-            }
-            draft.carve = tape.number;
-            tape.scan();
-            return readSign();
-        }
-
-        /** The first word of a HOLDER's line and its NAME. */
-        private boolean begin(int kind, int most) {
-            if (draft.countOf(kind) >= most) {
+            if (first == CARVE_WORD) {
+                carved = true;
+            } else if (draft.countOf(first) >= mostOf(first) || !draft.add(first)) {
                 return refuse(TOO_MANY);
             }
             tape.scan();
-            if (tape.token != A_WORD || isKept()) {
+            return readItems(lineOf(first));
+        }
+
+        private static int mostOf(int kind) {
+            return kind == CLASS ? MOST_CLASSES : 3;
+        }
+
+        private static int[] lineOf(int first) {
+            switch (first) {
+                case COMMON: return COMMON_LINE;
+                case OPTION: return OPTION_LINE;
+                case CLASS: return CLASS_LINE;
+                default: return CARVE_LINE;
+            }
+        }
+
+        private boolean readItems(int[] line) {
+            int next = 0;
+            for (int at = 0; at + WIDTH <= line.length; at = next) {
+                next = at + WIDTH;
+                boolean isWord = line[at] == A_WORD;
+                if (isWord && line[at + 2] > 0 && keptWord() != line[at + 1]) {
+                    next += line[at + 2] * WIDTH;
+                    continue;
+                }
+                boolean good = line[at] == A_NUMBER ? readNumber(line[at + 1], line[at + 2], line[at + 3])
+                    : line[at] == A_NAME ? readName()
+                    : isWord ? readWord(line[at + 1]) : readSign();
+                if (!good) {
+                    return false;
+                }
+                tape.scan();
+            }
+            return true;
+        }
+
+        private boolean readName() {
+            if (tape.token != A_WORD || keptWord() != NONE) {
                 return refuse(MISPLACED);
             }
-            for (int h = 0; h < draft.count; h++) {
+            int mine = draft.count - 1;
+            for (int h = 0; h < mine && h < MOST_HOLDERS; h++) {
                 if (names[h] == tape.word) {
                     return refuse(TOLD_ALREADY);
                 }
             }
-            int h = draft.add(kind);
-            if (h < 0 || h >= names.length) {
-                return refuse(TOO_MANY);
+            if (mine >= 0 && mine < MOST_HOLDERS) {
+                names[mine] = tape.word;
             }
-            names[h] = tape.word;
-            tape.scan();
             return true;
         }
 
-        /** Whether the word is one that no HOLDER can be named by. */
-        private boolean isKept() {
-            return tape.isWord("common") || tape.isWord("option") || tape.isWord("class")
-                || tape.isWord("at") || tape.isWord("rank") || tape.isWord("times")
-                || tape.isWord("ratio") || tape.isWord("sharing") || tape.isWord("cap")
-                || tape.isWord("yearly") || tape.isWord("carve");
-        }
-
-        private boolean readIfTold(String word, int what, int least, int most) {
-            if (!tape.isWord(word)) {
-                return true;
-            }
-            tape.scan();
-            return readFact(what, least, most);
-        }
-
-        private boolean readFact(int what, int least, int most) {
-            if (!isNumber(least, most)) {
-                return false;
-            }
-            draft.put(draft.count - 1, what, tape.number);
-            tape.scan();
-            return true;
-        }
-
-        private boolean isNumber(int least, int most) {
+        private boolean readNumber(int what, int least, int most) {
             if (tape.token != A_NUMBER) {
                 return refuse(MISPLACED);
             }
-            return tape.number >= least && tape.number <= most || refuse(NO_NUMBER);
+            if (tape.number < least || tape.number > most) {
+                return refuse(NO_NUMBER);
+            }
+            if (what == CARVE) {
+                draft.carve = tape.number;
+            } else {
+                draft.put(draft.count - 1, what, tape.number);
+            }
+            return true;
         }
 
-        private boolean readWord(String word) {
-            if (!tape.isWord(word)) {
+        private boolean readWord(int which) {
+            if (keptWord() != which) {
                 return refuse(MISPLACED);
             }
-            tape.scan();
+            if (which == SHARING_WORD) {
+                draft.put(draft.count - 1, SHARING, 1);
+            }
             return true;
         }
 
         private boolean readSign() {
-            if (tape.token != A_SIGN) {
-                return refuse(MISPLACED);
+            return tape.token == A_SIGN || refuse(MISPLACED);
+        }
+
+        /** Which of the words that no HOLDER can be named by is looked at; NONE if none of them. */
+        private int keptWord() {
+            for (int i = 0; tape.token == A_WORD && i < KEPT_WORDS; i++) {
+                if (kept[i] == tape.word) {
+                    return i;
+                }
             }
-            tape.scan();
-            return true;
+            return NONE;
         }
 
         private boolean refuse(int why) {
@@ -806,10 +809,10 @@ public final class ExitFalls {
             System.arraycopy(other.facts, 0, facts, 0, facts.length);
         }
 
-        /** One HOLDER more, with what it has where nothing is told: its number. */
-        int add(int kind) {
+        /** One HOLDER more, with what it has where nothing is told. */
+        boolean add(int kind) {
             if (count >= MOST_HOLDERS) {
-                return NONE;
+                return false;
             }
             int h = count;
             count++;
@@ -820,7 +823,7 @@ public final class ExitFalls {
             put(h, TIMES, 100);
             put(h, RATIO, 100);
             put(h, CAP, NONE);
-            return h;
+            return true;
         }
 
         boolean isHolder(int h) {
@@ -828,7 +831,7 @@ public final class ExitFalls {
         }
 
         int fact(int h, int what) {
-            return isHolder(h) && what >= 0 && what < FACTS ? facts[h * FACTS + what] : 0;
+            return h >= 0 && h < count && what >= 0 && what < FACTS ? facts[h * FACTS + what] : 0;
         }
 
         void put(int h, int what, int value) {
@@ -846,11 +849,11 @@ public final class ExitFalls {
         }
 
         boolean isClass(int h) {
-            return isHolder(h) && fact(h, KIND) == CLASS;
+            return h >= 0 && h < count && facts[h * FACTS + KIND] == CLASS;
         }
 
         boolean isWaived(int h) {
-            return isHolder(h) && (waived >> h & 1) == 1;
+            return h >= 0 && h < count && (waived >> h & 1) == 1;
         }
 
         /** A class that SHARES on without CAP never gains by turning. */
@@ -870,8 +873,7 @@ public final class ExitFalls {
         }
 
         /** The most that a SHARE of a class that can TURN has unturned: TOP, or PREF of one that is not SHARING. */
-        int lidOf(int h) {
-            int pref = prefOf(h);
+        int lidOf(int h, int pref) {
             return fact(h, SHARING) == 0 ? pref : Math.max(pref, fact(h, PRICE) * fact(h, CAP));
         }
 
@@ -1002,17 +1004,8 @@ public final class ExitFalls {
         private final long[] oldAbove = new long[MOST_HOLDERS];
         private long oldBelow = 1;
 
-        /** Each class TURNS by itself, when it has more by it. */
-        void arrange(Firm firm) {
-            shape(firm, false, 0);
-        }
-
-        /** The classes of a set TURN, and no others. */
-        void arrangeBy(Firm firm, int set) {
-            shape(firm, true, set);
-        }
-
-        private void shape(Firm firm, boolean told, int set) {
+        /** Told: the classes of a set TURN, and no others; else each by itself, when it has more by it. */
+        void arrange(Firm firm, boolean told, int set) {
             curves.clear();
             allPrefs = 0;
             for (int rank = 0; rank <= MOST_RANK; rank++) {
@@ -1055,7 +1048,7 @@ public final class ExitFalls {
             if (!canTurn) {
                 return;
             }
-            int lid = firm.lidOf(h);
+            int lid = firm.lidOf(h, pref);
             curves.addStep(lid - pref, ratio, shares * (lid - pref), -slope);
             if (!told) {
                 curves.addStep(lid, ratio, -shares * lid, slope);
@@ -1154,8 +1147,9 @@ public final class ExitFalls {
             }
             long unit = levelBelow * 100;
             long byLevel = levelAbove * firm.fact(h, RATIO);
-            long pref = firm.prefOf(h) * unit;
-            long lid = firm.lidOf(h) * unit;
+            int prefOfShare = firm.prefOf(h);
+            long pref = prefOfShare * unit;
+            long lid = firm.lidOf(h, prefOfShare) * unit;
             if (byLevel > lid) {
                 return 4;
             }
@@ -1232,10 +1226,15 @@ public final class ExitFalls {
 
         /** The first TRANCHES are the RANKS that have PREFS. */
         private void findPartOfRank(Fall fall, int h, int k) {
-            int rank = 0;
-            int passed = fall.rankPrefs[0] > 0 ? 1 : 0;
-            for (; rank < MOST_RANK && passed <= k; passed += fall.rankPrefs[rank] > 0 ? 1 : 0) {
-                rank++;
+            int rank = NONE;
+            for (int i = 0, before = 0; i <= MOST_RANK && rank == NONE; i++) {
+                if (fall.rankPrefs[i] > 0) {
+                    rank = before == k ? i : NONE;
+                    before++;
+                }
+            }
+            if (rank < 0 || rank > MOST_RANK) {
+                return;
             }
             boolean isPaid = h >= 0 && h < fall.curves.count && fall.rankOf(h) == rank;
             setPart(isPaid ? fall.curves.startFixed[h] : 0, fall.rankPrefs[rank]);
@@ -1306,7 +1305,7 @@ public final class ExitFalls {
             if (row < 0 || row >= MOST_ROWS) {
                 return;
             }
-            fall.arrangeBy(firm, setOf(row));
+            fall.arrange(firm, true, setOf(row));
             fall.pour(falls);
             below[row] = fall.below;
             for (int i = 0; i < count; i++) {
