@@ -559,8 +559,8 @@ public final class ExitFalls {
 
         /** Looks at the next TOKEN. */
         void scan() {
-            for (; next < length && isBlank(bytes[next]); next++) {
-                token = AN_END;
+            while (next < length && isBlank(bytes[next])) {
+                next++;
             }
             start = next;
             if (next >= length) {

@@ -14,6 +14,8 @@ public final class FallsTest {
         votes();
         breaks();
         emptyPrefs();
+        flatLevels();
+        oneHundredth();
         greatest();
         wrong();
         Check.finish();
@@ -223,6 +225,31 @@ public final class FallsTest {
         Check.fraction("level jumps", w.level(21, 0), w.level(21, 1), 110, 1);
     }
 
+    private static void flatLevels() {
+        ExitFalls x = Check.firm("class a 10 at 10 rank 0 sharing cap 200;", 1);
+        Check.fraction("the least level", x.level(200, 0), x.level(200, 1), 1000, 1);
+        Check.fraction("behind it", x.level(201, 0), x.level(201, 1), 2010, 1);
+        states(x, 200, 3);
+        states(x, 201, 4);
+        Check.due("breaks", x.breaks(-1, 0), 2);
+        Check.fraction("part", x.part(0, 2, 0), x.part(0, 2, 1), 1, 1);
+    }
+
+    private static void oneHundredth() {
+        ExitFalls x = Check.firm("class a 1 at 1 rank 0 times 199; common b 1;", 2);
+        has(x, 1, 100, 0);
+        has(x, 2, 199, 1);
+        Check.fraction("level", x.level(2, 0), x.level(2, 1), 1, 1);
+        ExitFalls y = Check.firm("class a 1 at 1 rank 2 times 1; class b 1 at 1 rank 4 times 1; common c 1;", 3);
+        Check.due("breaks", y.breaks(-1, 0), 3);
+        Check.due("break", y.breaks(0, 0), 1);
+        Check.due("break", y.breaks(1, 0), 2);
+        Check.fraction("part", y.part(0, 0, 0), y.part(0, 0, 1), 1, 1);
+        Check.fraction("part", y.part(0, 1, 0), y.part(0, 1, 1), 0, 1);
+        Check.fraction("part", y.part(1, 1, 0), y.part(1, 1, 1), 1, 1);
+        Check.fraction("part", y.part(2, 2, 0), y.part(2, 2, 1), 1, 1);
+    }
+
     private static void greatest() {
         String most = " 9999 at 99 rank 0 times 400 ratio 400 sharing cap 2000 yearly 30 20;";
         ExitFalls x = Check.firm("class a" + most + "class b" + most + "class c" + most + "class d" + most
@@ -235,6 +262,13 @@ public final class FallsTest {
         Check.due("all prefs", x.breaks(0, 0), 6L * 9999 * 99000);
         Check.due("all tops", x.breaks(1, 0), 6L * 9999 * 198000);
         Check.due("no more: turned at once with it", x.breaks(-1, 0), 2);
+        Check.due("rank", x.rank(0, 1), 0);
+        Check.due("a is last and has nothing", x.has(0, 9999999, 0), 0);
+        for (int h = 1; h < 6; h++) {
+            x.rank(h, 5);
+        }
+        has(x, 9999999, 989901000, 2019780, 2019780, 2019780, 2019780, 2019780);
+        paid(x, 9999999, 9899010, 20198, 20198, 20198, 20198, 20197);
     }
 
     private static void wrong() {

@@ -9,6 +9,7 @@ public final class ModelTest {
     private static String said;
 
     public static void main(String[] args) {
+        mostBreaks();
         int rounds = args.length > 0 ? Integer.parseInt(args[0]) : 400;
         int seed = args.length > 1 ? Integer.parseInt(args[1]) : 0;
         for (int round = 0; round < rounds; round++) {
@@ -18,9 +19,30 @@ public final class ModelTest {
         Check.finish();
     }
 
+    /** Six RANKS, three STRIKES, six TOPS that are come to twice. */
+    private static void mostBreaks() {
+        StringBuilder text = new StringBuilder("common x 100; common y 7; common z 9;");
+        for (int i = 0; i < 6; i++) {
+            text.append("class c").append((char) ('a' + i)).append(" 10 at ").append(10 + i).append(" rank ").append(i)
+                .append(" ratio ").append(50 + 17 * i).append(" sharing cap ").append(150 + 31 * i).append(";");
+        }
+        text.append("option r 5 at 77; option s 6 at 88; option t 7 at 99; carve 5;");
+        chance = new Random(5);
+        look(text.toString());
+        Check.due("the most breaks", x.breaks(-1, 0), 21);
+        for (int h = 0; h < 12; h++) {
+            for (int k = 0; k <= 21; k++) {
+                same("part " + h + " " + k, x.part(h, k, 0), x.part(h, k, 1), model.part(h, k));
+            }
+        }
+    }
+
     private static void oneFirm(int size) {
         Texts texts = new Texts(chance, size);
-        String text = texts.text(chance.nextInt(4), chance.nextInt(4), chance.nextInt(7));
+        look(texts.text(chance.nextInt(4), chance.nextInt(4), chance.nextInt(7)));
+    }
+
+    private static void look(String text) {
         model = new TextModel(text.getBytes()).model;
         x = new ExitFalls();
         said = text;

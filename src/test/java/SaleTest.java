@@ -31,6 +31,9 @@ public final class SaleTest {
         looks(x, 9999999, 9999999, 0, 0);
         Check.due("close", x.close(9999999, 99), 100000);
         looks(x, 9999999, 9899999, 100000, 0);
+        Check.due("close with none held", x.close(123, 0), 123);
+        looks(x, 123, 0, 123, 0);
+        x.undo();
         Check.due("close nothing", x.close(0, 50), 0);
         looks(x, 0, 0, 0, 0);
         Check.due("release nothing held", x.release(1, true), -1);
@@ -80,6 +83,9 @@ public final class SaleTest {
         looks(x, 1000, 0, 970, 30);
         Check.due("acts", x.about(2), 4);
         Check.due("undo", x.undo(), true);
+        Check.due("one lost", x.release(1, true), 119);
+        looks(x, 1000, 119, 850, 31);
+        Check.due("undo", x.undo(), true);
         looks(x, 1000, 120, 850, 30);
         Check.due("another sale", x.close(7, 50), 4);
         looks(x, 7, 3, 4, 0);
@@ -116,6 +122,9 @@ public final class SaleTest {
         }
         Check.due("guesses", x.about(4), 3);
         Check.due("mean again", x.mean(0), Double.doubleToRawLongBits(sum / 1008.0));
+        ExitFalls one = Check.firm("common a 1; common b 2;", 2);
+        one.guess(5, 1);
+        Check.due("mean of one guess", one.mean(1), Double.doubleToRawLongBits(1000.0 / 3.0));
         ExitFalls nothing = Check.firm("option o 1 at 9;", 1);
         nothing.guess(0, 5);
         Check.due("mean of nothing", nothing.mean(0), 0);

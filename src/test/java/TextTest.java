@@ -134,7 +134,10 @@ public final class TextTest {
             + "class d1 at1 rank0;class e1 at1 rank0;class f1 at1 rank0;";
         good(six, 6);
         fault(six + "class f1 at1 rank0;", 5, six.length());
-        good(six + "common g1;common h1;common i1;option j1 at1;option k1 at1;option l1 at1;", 12);
+        String eleven = six + "common g1;common h1;common i1;option j1 at1;option k1 at1;";
+        good(eleven + "option l1 at1;", 12);
+        fault(eleven + "option k1 at1;", 3, eleven.length() + 7);
+        fault(eleven + "option a1 at1;", 3, eleven.length() + 7);
     }
 
     private static void faultLeavesAll() {
