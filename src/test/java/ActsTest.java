@@ -1,8 +1,9 @@
 import java.util.ArrayDeque;
 import java.util.Deque;
 import java.util.Random;
+import java.util.function.ToLongFunction;
 
-/** Promises 32 to 35: acts, by hand, and by chance against pictures of the whole state. */
+/** Promises 32 to 35: acts, by hand, and by chance against objects without what was undone. */
 public final class ActsTest {
     private static final String TEXT = "common f 100; class s 50 at 2 rank 0; option o 50 at 3; class t 9 at 9 rank 1 sharing cap 300;";
 
@@ -109,35 +110,50 @@ public final class ActsTest {
         return all.append(x.about(4)).append(' ').append(x.about(5)).toString();
     }
 
+    /** ACTS by chance; what is in force is done once more on a new object, which must look alike. */
     private static void byChance(Random chance) {
         ExitFalls x = Check.firm(TEXT, 4);
-        Deque<String> before = new ArrayDeque<>();
-        for (int i = 0; i < 120; i++) {
-            String now = picture(x);
-            boolean acted = false;
-            switch (chance.nextInt(9)) {
-                case 0: acted = x.close(chance.nextInt(5000) - 100, chance.nextInt(110) - 4) != -1; break;
-                case 1: acted = x.release(chance.nextInt(300), false) != -1; break;
-                case 2: acted = x.release(chance.nextInt(300), true) != -1; break;
-                case 3: acted = x.guess(chance.nextInt(5000), chance.nextInt(1100)) != -1; break;
-                case 4: acted = x.grant(chance.nextInt(5), chance.nextInt(1000)) != -1; break;
-                case 5: acted = x.waive(chance.nextInt(5), chance.nextBoolean()); break;
-                case 6: acted = x.rank(chance.nextInt(5), chance.nextInt(7)) != -1; break;
-                default:
-                    Check.due("undo", x.undo(), !before.isEmpty());
-                    String want = before.isEmpty() ? now : before.removeLast();
-                    Check.due("as before: " + want, picture(x).equals(want), true);
-                    continue;
-            }
-            if (acted) {
-                before.addLast(now);
-                if (before.size() > 12) {
-                    before.removeFirst();
+        Deque<ToLongFunction<ExitFalls>> inForce = new ArrayDeque<>();
+        int kept = 0;
+        for (int i = 1; i <= 80; i++) {
+            if (chance.nextInt(9) < 2) {
+                Check.due("undo", x.undo(), kept > 0);
+                if (kept > 0) {
+                    inForce.removeLast();
+                    kept--;
                 }
             } else {
-                Check.due("nothing done: " + now, picture(x).equals(now), true);
+                ToLongFunction<ExitFalls> act = someAct(chance);
+                if (act.applyAsLong(x) >= 0) {
+                    inForce.addLast(act);
+                    kept = Math.min(kept + 1, 12);
+                }
             }
-            Check.due("acts", x.about(2), before.size());
+            Check.due("acts", x.about(2), kept);
+            if (i % 16 == 0) {
+                Made again = Made.of(TEXT);
+                inForce.forEach(again::then);
+                String want = picture(again.object());
+                Check.due("as it is due: " + want, picture(x).equals(want), true);
+            }
+        }
+    }
+
+    /** Its answer is below 0 if it did nothing. */
+    private static ToLongFunction<ExitFalls> someAct(Random chance) {
+        int a = chance.nextInt(5000) - 100;
+        int b = chance.nextInt(1100);
+        int h = chance.nextInt(5);
+        int rank = chance.nextInt(7);
+        boolean is = chance.nextBoolean();
+        switch (chance.nextInt(7)) {
+            case 0: return x -> x.close(a, b / 10 - 4);
+            case 1: return x -> x.release(b / 4, false);
+            case 2: return x -> x.release(b / 4, true);
+            case 3: return x -> x.guess(a, b);
+            case 4: return x -> x.grant(h, b);
+            case 5: return x -> x.waive(h, is) ? 0 : -1;
+            default: return x -> x.rank(h, rank);
         }
     }
 }

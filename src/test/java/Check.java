@@ -45,6 +45,14 @@ final class Check {
         return x;
     }
 
+    /** A TEXT with a FAULT. */
+    static void fault(String text, int fault, int place) {
+        ExitFalls x = new ExitFalls();
+        due("text " + text, read(x, text), -1);
+        due("fault of " + text, x.fault(0), fault);
+        due("place in " + text, x.fault(1), place);
+    }
+
     static void fraction(String call, long above, long below, long wantAbove, long wantBelow) {
         due(call + " above", above, wantAbove);
         due(call + " below", below, wantBelow);

@@ -4,6 +4,7 @@ import java.util.Random;
 /** Firms by chance: every call against the Model, for promises 7 to 24 and 29 to 34. */
 public final class ModelTest {
     private static Random chance;
+    private static Made made;
     private static ExitFalls x;
     private static Model model;
     private static String said;
@@ -31,6 +32,7 @@ public final class ModelTest {
         look(text.toString());
         Check.due("the most breaks", x.breaks(-1, 0), 21);
         for (int h = 0; h < 12; h++) {
+            x = made.object();
             for (int k = 0; k <= 21; k++) {
                 same("part " + h + " " + k, x.part(h, k, 0), x.part(h, k, 1), model.part(h, k));
             }
@@ -44,19 +46,23 @@ public final class ModelTest {
 
     private static void look(String text) {
         model = new TextModel(text.getBytes()).model;
-        x = new ExitFalls();
+        made = Made.of(text);
+        x = made.object();
         said = text;
-        Check.due("text of " + text, Check.read(x, text), model.holders.size());
+        Check.due("holders of " + text, x.about(0), model.holders.size());
         Check.due("carve of " + text, x.about(1), model.carve);
         int count = model.holders.size();
         for (int i = 0; i < 3 && count > 0; i++) {
             changeOne(chance.nextInt(count));
         }
         facts();
+        x = made.object();
         breaks();
         for (int i = 0; i < 4; i++) {
+            x = made.object();
             amount(someAmount());
         }
+        x = made.object();
         worth();
     }
 
@@ -77,18 +83,21 @@ public final class ModelTest {
                 boolean is = chance.nextBoolean();
                 boolean can = holder.kind == 2 && holder.waived != is;
                 Check.due("waive " + said, x.waive(h, is), can);
+                made.then(y -> y.waive(h, is) ? 1 : 0);
                 holder.waived = can ? is : holder.waived;
                 break;
             case 1:
                 int rank = chance.nextInt(8) - 1;
                 boolean moves = holder.kind == 2 && rank >= 0 && rank <= 5 && rank != holder.rank;
                 Check.due("rank " + said, x.rank(h, rank), moves ? holder.rank : -1);
+                made.then(y -> y.rank(h, rank));
                 holder.rank = moves ? rank : holder.rank;
                 break;
             case 2:
                 int n = chance.nextInt(100);
                 boolean gets = n > 0 && holder.shares + n <= 9999;
                 Check.due("grant " + said, x.grant(h, n), gets ? holder.shares + n : -1);
+                made.then(y -> y.grant(h, n));
                 holder.shares = gets ? holder.shares + n : holder.shares;
                 break;
             default:

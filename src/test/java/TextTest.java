@@ -73,13 +73,6 @@ public final class TextTest {
         Check.due("without its place", x.fault(1), -1);
     }
 
-    private static void fault(String text, int fault, int place) {
-        ExitFalls x = new ExitFalls();
-        Check.due("text " + text, Check.read(x, text), -1);
-        Check.due("fault of " + text, x.fault(0), fault);
-        Check.due("place in " + text, x.fault(1), place);
-    }
-
     private static void good(String text, int holders) {
         Check.firm(text, holders);
     }
@@ -89,55 +82,55 @@ public final class TextTest {
         good("common abcdefg 9999;", 1);
         good("common x 0001;", 1);
         good("carve 50;carve".substring(0, 9), 0);
-        fault("common abcdefgh 1;", 1, 7);
-        fault("common x 00001;", 1, 9);
-        fault("common x 1a;", 1, 9);
-        fault("common x 1A;", 1, 10);
-        fault("common x 1;\t", 1, 11);
-        fault("common x\r1;", 1, 8);
-        fault("common X 1;", 1, 7);
-        fault("commons x 1;", 2, 0);
-        fault("commonss x 1;", 1, 0);
-        fault("common common 1;", 2, 7);
-        fault("common cap 1;", 2, 7);
-        fault("common 5 1;", 2, 7);
-        fault("common x y;", 2, 9);
-        fault("common x 1", 2, 10);
-        fault("common x 1  \n", 2, 13);
-        fault("common x 1 1;", 2, 11);
-        fault("common x 0;", 4, 9);
-        fault("option x 1 at 0;", 4, 14);
-        fault("option x 1 at 1000;", 4, 14);
-        fault("option x 1;", 2, 10);
-        fault("class x 1 at 100 rank 0;", 4, 13);
-        fault("class x 1 at 0 rank 0;", 4, 13);
-        fault("class x 1 at 1;", 2, 14);
-        fault("class x 1 at 1 rank 6;", 4, 20);
-        fault("class x 1 at 1 rank 5 times 401;", 4, 28);
-        fault("class x 1 at 1 rank 5 ratio 0;", 4, 28);
-        fault("class x 1 at 1 rank 5 ratio 401;", 4, 28);
-        fault("class x 1 at 1 rank 5 ratio 400 times 1;", 2, 32);
-        fault("class x 1 at 1 rank 5 cap 5;", 2, 22);
-        fault("class x 1 at 1 rank 5 sharing cap 2001;", 4, 34);
-        fault("class x 1 at 1 rank 5 sharing sharing;", 2, 30);
-        fault("class x 1 at 1 rank 5 yearly 31 0;", 4, 29);
-        fault("class x 1 at 1 rank 5 yearly 30 21;", 4, 32);
-        fault("class x 1 at 1 rank 5 yearly 30;", 2, 31);
-        fault("class x 1 at 1 rank 5 yearly 30 20 sharing;", 2, 35);
-        fault("carve 51;", 4, 6);
-        fault("carve 5; carve 5;", 2, 9);
-        fault("common x 1; option x 1 at 1;", 3, 19);
-        fault("common x 1; class x 0 at 1 rank 1;", 3, 18);
-        fault("common a1;common b1;common c1;common common", 5, 30);
-        fault("option a1 at1;option b1 at1;option c1 at1;option d1 at1;", 5, 42);
+        Check.fault("common abcdefgh 1;", 1, 7);
+        Check.fault("common x 00001;", 1, 9);
+        Check.fault("common x 1a;", 1, 9);
+        Check.fault("common x 1A;", 1, 10);
+        Check.fault("common x 1;\t", 1, 11);
+        Check.fault("common x\r1;", 1, 8);
+        Check.fault("common X 1;", 1, 7);
+        Check.fault("commons x 1;", 2, 0);
+        Check.fault("commonss x 1;", 1, 0);
+        Check.fault("common common 1;", 2, 7);
+        Check.fault("common cap 1;", 2, 7);
+        Check.fault("common 5 1;", 2, 7);
+        Check.fault("common x y;", 2, 9);
+        Check.fault("common x 1", 2, 10);
+        Check.fault("common x 1  \n", 2, 13);
+        Check.fault("common x 1 1;", 2, 11);
+        Check.fault("common x 0;", 4, 9);
+        Check.fault("option x 1 at 0;", 4, 14);
+        Check.fault("option x 1 at 1000;", 4, 14);
+        Check.fault("option x 1;", 2, 10);
+        Check.fault("class x 1 at 100 rank 0;", 4, 13);
+        Check.fault("class x 1 at 0 rank 0;", 4, 13);
+        Check.fault("class x 1 at 1;", 2, 14);
+        Check.fault("class x 1 at 1 rank 6;", 4, 20);
+        Check.fault("class x 1 at 1 rank 5 times 401;", 4, 28);
+        Check.fault("class x 1 at 1 rank 5 ratio 0;", 4, 28);
+        Check.fault("class x 1 at 1 rank 5 ratio 401;", 4, 28);
+        Check.fault("class x 1 at 1 rank 5 ratio 400 times 1;", 2, 32);
+        Check.fault("class x 1 at 1 rank 5 cap 5;", 2, 22);
+        Check.fault("class x 1 at 1 rank 5 sharing cap 2001;", 4, 34);
+        Check.fault("class x 1 at 1 rank 5 sharing sharing;", 2, 30);
+        Check.fault("class x 1 at 1 rank 5 yearly 31 0;", 4, 29);
+        Check.fault("class x 1 at 1 rank 5 yearly 30 21;", 4, 32);
+        Check.fault("class x 1 at 1 rank 5 yearly 30;", 2, 31);
+        Check.fault("class x 1 at 1 rank 5 yearly 30 20 sharing;", 2, 35);
+        Check.fault("carve 51;", 4, 6);
+        Check.fault("carve 5; carve 5;", 2, 9);
+        Check.fault("common x 1; option x 1 at 1;", 3, 19);
+        Check.fault("common x 1; class x 0 at 1 rank 1;", 3, 18);
+        Check.fault("common a1;common b1;common c1;common common", 5, 30);
+        Check.fault("option a1 at1;option b1 at1;option c1 at1;option d1 at1;", 5, 42);
         String six = "class a1 at1 rank0;class b1 at1 rank0;class c1 at1 rank0;"
             + "class d1 at1 rank0;class e1 at1 rank0;class f1 at1 rank0;";
         good(six, 6);
-        fault(six + "class f1 at1 rank0;", 5, six.length());
+        Check.fault(six + "class f1 at1 rank0;", 5, six.length());
         String eleven = six + "common g1;common h1;common i1;option j1 at1;option k1 at1;";
         good(eleven + "option l1 at1;", 12);
-        fault(eleven + "option k1 at1;", 3, eleven.length() + 7);
-        fault(eleven + "option a1 at1;", 3, eleven.length() + 7);
+        Check.fault(eleven + "option k1 at1;", 3, eleven.length() + 7);
+        Check.fault(eleven + "option a1 at1;", 3, eleven.length() + 7);
     }
 
     private static void faultLeavesAll() {

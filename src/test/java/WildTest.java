@@ -27,17 +27,31 @@ public final class WildTest {
         return roll == 5 ? chance.nextInt() : chance.nextInt(roll == 6 ? 3000 : 10000000);
     }
 
+    /** A twin gets the calls that change something, and none that only tells. */
     private static long run(int seed) {
         chance = new Random(seed);
         ExitFalls x = new ExitFalls();
+        ExitFalls twin = new ExitFalls();
         long sum = 0;
         if (seed % 5 > 0) {
             Texts texts = new Texts(chance, seed % 3);
-            sum = Check.read(x, texts.text(chance.nextInt(4), chance.nextInt(4), chance.nextInt(7)));
+            String text = texts.text(chance.nextInt(4), chance.nextInt(4), chance.nextInt(7));
+            sum = Check.read(x, text);
+            Check.due("text", Check.read(twin, text), sum);
         }
-        for (int i = 0; i < 400; i++) {
-            sum = sum * 31 + (chance.nextInt(4) == 0 ? change(x) : tell(x));
+        for (int i = 0; i < 150; i++) {
+            if (chance.nextInt(4) == 0) {
+                long next = chance.nextLong();
+                chance = new Random(next);
+                long answer = change(x);
+                chance = new Random(next);
+                Check.due("the twin's answer", change(twin), answer);
+                sum = sum * 31 + answer;
+            } else {
+                sum = sum * 31 + tell(x);
+            }
         }
+        Check.due("nothing changed by calls that tell, seed " + seed, picture(x), picture(twin));
         return sum;
     }
 
@@ -73,16 +87,11 @@ public final class WildTest {
     }
 
     private static long tell(ExitFalls x) {
-        long before = picture(x);
         int which = chance.nextInt(25);
-        int a = any();
-        int b = any();
-        int c = any();
-        int d = any();
-        long answer = which < 12 ? tellOfFalls(x, which, new int[] { a, b, c, d }) : tellMore(x, which, new int[] { a, b, c, d });
-        long again = which < 12 ? tellOfFalls(x, which, new int[] { a, b, c, d }) : tellMore(x, which, new int[] { a, b, c, d });
+        int[] n = { any(), any(), any(), any() };
+        long answer = which < 12 ? tellOfFalls(x, which, n) : tellMore(x, which, n);
+        long again = which < 12 ? tellOfFalls(x, which, n) : tellMore(x, which, n);
         Check.due("again the same, call " + which, again, answer);
-        Check.due("nothing changed by call " + which, picture(x), before);
         return answer;
     }
 
