@@ -19,6 +19,7 @@ public final class ActEdgesTest {
         undoIsNoAct();
         textAndActs();
         roundTheTwelveAgain();
+        upToTheLastCall();
         Check.finish();
     }
 
@@ -273,5 +274,21 @@ public final class ActEdgesTest {
             }
             Check.due("no more", x.undo(), false);
         }
+    }
+
+    /** An object is promised for 512 calls: the last ones are answered as the first ones. */
+    private static void upToTheLastCall() {
+        ExitFalls x = Check.firm(FOUR, 4);
+        int calls = (FOUR.length() + 19) / 20 + 2;
+        for (; calls < 508; calls += 3) {
+            Check.due("grant", x.grant(0, 7), 107);
+            Check.due("shares", x.holder(0, 1), 107);
+            Check.due("undo", x.undo(), true);
+        }
+        for (; calls < 511; calls++) {
+            Check.due("nothing to undo", x.undo(), false);
+        }
+        // 181 units are PREFS, of the rest f has 100 of 109 parts
+        Check.due("the 512th call", x.paid(0, 281), 92);
     }
 }

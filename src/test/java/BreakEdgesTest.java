@@ -185,6 +185,15 @@ public final class BreakEdgesTest {
         ExitFalls y = Check.firm("class a 1 at 1 rank 0 ratio 399 sharing cap 101; common f 1;", 2);
         Check.fraction("top with pref", y.breaks(1, 0), y.breaks(1, 1), 101 * 399 + 100, 399);
         Check.fraction("top alone", y.breaks(2, 0), y.breaks(2, 1), 101 * 399 + 10100, 399);
+        part(y, 0, 2, 0, 1);
+        part(y, 1, 2, 1, 1);
+        part(y, 0, 3, 399, 499);
+        // behind a BREAK that is a fraction another one comes soon
+        ExitFalls z = Check.firm("class a 1 at 1 rank 0 ratio 300; common f 1; option o 1 at 2;", 3);
+        Check.fraction("the strike", z.breaks(2, 0), z.breaks(2, 1), 800, 1);
+        part(z, 2, 2, 0, 1);
+        part(z, 0, 2, 3, 4);
+        part(z, 2, 3, 1, 5);
     }
 
     private static void breaksBeyondAllAmounts() {

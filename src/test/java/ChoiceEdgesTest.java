@@ -237,6 +237,11 @@ public final class ChoiceEdgesTest {
         steadies(Check.firm("class a 9999 at 1 rank 0 times 1; common f 9902;", 2), 199, 0);
         steadies(Check.firm("class a 9999 at 1 rank 0 times 1; common f 9901;", 2), 199, 0, 1);
         steadies(Check.firm("class a 9999 at 1 rank 0 times 1; common f 9900;", 2), 199, 1);
+        // three sevenths of a hundredth are more
+        ExitFalls near = Check.firm("class a 1 at 1 rank 0 times 1 ratio 400 sharing cap 2000; common f 3;", 2);
+        Check.fraction("unturned", near.chosen(0, 0, 1, 0), near.chosen(0, 0, 1, 1), 403, 7);
+        Check.fraction("turned", near.chosen(1, 0, 1, 0), near.chosen(1, 0, 1, 1), 400, 7);
+        steadies(near, 1, 0);
     }
 
     private static void oneThatIsWaivedChooses() {

@@ -24,6 +24,7 @@ public final class SearchEdgesTest {
         dilutesMoreOrLess();
         prefersItsArguments();
         prefersWhoHasMore();
+        prefersByLessThanAHundredth();
         votesAreCut();
         votesOfOthersAreNoMatter();
         passesByMoreVotes();
@@ -282,6 +283,26 @@ public final class SearchEdgesTest {
         ExitFalls y = Check.firm("common a 1; carve 50;", 1);
         Check.due("prefers of the same", y.prefers(2, 1), 0);
         Check.due("prefers more", y.prefers(3, 2), 1);
+    }
+
+    private static void prefersByLessThanAHundredth() {
+        ExitFalls x = Check.firm("common a 1; common b 9999; common c 9999;", 3);
+        for (int amount = 0; amount < 100; amount++) {
+            Check.due("prefers more", x.prefers(amount + 1, amount), 7);
+            Check.due("prefers less", x.prefers(amount, amount + 1), 0);
+            flat(x, 0, amount, amount, amount);
+        }
+        // a comes to TOP between the two AMOUNTS: fractions of unlike divisors, whole parts alike
+        ExitFalls y = Check.firm("common f 1; class s 9999 at 1 rank 0 times 0;"
+            + "class a 9999 at 1 rank 0 times 1 ratio 30 sharing cap 2;", 3);
+        Check.fraction("below TOP", y.has(0, 533, 0), y.has(0, 533, 1), 433010, 129997);
+        Check.fraction("at TOP", y.has(0, 534, 0), y.has(0, 534, 1), 16701, 5000);
+        Check.due("prefers more", y.prefers(534, 533), 7);
+        Check.due("prefers less", y.prefers(533, 534), 0);
+        flat(y, 0, 533, 533, 533);
+        flat(y, 0, 534, 534, 534);
+        flat(y, 2, 533, 533, 533);
+        Check.due("a has TOP from here", y.flat(2, 600, 0), 534);
     }
 
     private static void votesAreCut() {

@@ -216,6 +216,12 @@ public final class TokenEdgesTest {
                 }
             }
         }
+        for (char letter = 'a'; letter <= 'z'; letter++) {
+            String name = "" + letter;
+            good("common " + name + " 1;common " + name + name + " 1;common " + name.repeat(7) + " 1;", 3);
+            good("common x" + name + " 1;common " + name + "x" + name + " 1;common xyx" + name + " 1;", 3);
+            Check.fault("common " + name.repeat(7) + " 1;common " + name.repeat(7) + " 1;", 3, 24);
+        }
         good("common aaaaaaa 1;common aaaaaab 1;common baaaaaa 1;", 3);
         good("common aaaaaaa 1;common aaaaaa 1;", 2);
         Check.fault("common a 1;common b 1;common a 1;", 3, 29);
