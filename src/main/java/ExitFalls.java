@@ -960,19 +960,29 @@ public final class ExitFalls {
         }
 
         int ratioAt(int i) {
-            return ratio[order[i]];
+            return i >= 0 && i < steps ? ratio[order[i]] : 1;
         }
 
         /** What all have together at the i-th step's LEVEL, times its ratio; the steps before it are taken. */
         long totalAt(int i) {
+            if (i < 0 || i >= steps) {
+                return 0;
+            }
             int step = order[i];
             return allFixed * ratio[step] + allSlope * rise[step];
         }
 
         void take(int i) {
+            if (i < 0 || i >= steps) {
+                return;
+            }
             int step = order[i];
-            fixed[who[step]] += fixedBy[step];
-            slope[who[step]] += slopeBy[step];
+            int h = who[step];
+            if (h < 0 || h >= count) {
+                return;
+            }
+            fixed[h] += fixedBy[step];
+            slope[h] += slopeBy[step];
             allFixed += fixedBy[step];
             allSlope += slopeBy[step];
         }
@@ -1323,7 +1333,8 @@ public final class ExitFalls {
         }
 
         private boolean gains(int row, int other, int player) {
-            if (row < 0 || row >= MOST_ROWS || other < 0 || other >= MOST_ROWS) {
+            boolean areRows = row >= 0 && row < MOST_ROWS && other >= 0 && other < MOST_ROWS;
+            if (!areRows || player < 0 || player >= MOST_CLASSES) {
                 return false;
             }
             long now = above[row * MOST_CLASSES + player];
@@ -1447,11 +1458,15 @@ public final class ExitFalls {
         }
 
         int latest(int what) {
-            return rows[newest * WIDTH + what];
+            int at = newest * WIDTH + what;
+            return at >= 0 && at < rows.length ? rows[at] : 0;
         }
 
         private void put(int what, int value) {
-            rows[newest * WIDTH + what] = value;
+            int at = newest * WIDTH + what;
+            if (at >= 0 && at < rows.length) {
+                rows[at] = value;
+            }
         }
     }
 

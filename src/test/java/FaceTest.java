@@ -1,3 +1,4 @@
+import java.lang.reflect.Array;
 import java.lang.reflect.Field;
 import java.lang.reflect.Member;
 import java.lang.reflect.Method;
@@ -5,6 +6,8 @@ import java.lang.reflect.Modifier;
 import java.nio.file.Files;
 import java.nio.file.Path;
 import java.util.Arrays;
+import java.util.Collections;
+import java.util.IdentityHashMap;
 import java.util.Set;
 import java.util.TreeSet;
 import java.util.regex.Matcher;
@@ -24,6 +27,7 @@ public final class FaceTest {
         face();
         classesInside();
         text(Files.readString(Path.of("src/main/java/ExitFalls.java")));
+        room();
         Check.finish();
     }
 
@@ -101,7 +105,41 @@ public final class FaceTest {
         for (char c : text.toCharArray()) {
             Check.due("sign " + (int) c, c == 10 || c >= 32 && c < 127, true);
         }
+        madeOnce(code);
         longMethods(text);
+    }
+
+    /** Objects are made with the object alone, so that no run of calls needs more room; and few, since runs make many. */
+    private static void madeOnce(String code) {
+        Matcher made = Pattern.compile("(?m)^(.*)\\bnew\\b.*$").matcher(code);
+        while (made.find()) {
+            boolean isField = made.group(1).matches(" {8}(private )?final [\\w\\[\\]]+ \\w+ = ");
+            boolean isInConstructor = made.group(1).matches(" {8}\\w+ = ");
+            Check.due("made once: " + made.group().trim(), isField || isInConstructor, true);
+        }
+    }
+
+    private static void room() throws Exception {
+        Set<Object> seen = Collections.newSetFromMap(new IdentityHashMap<>());
+        Check.due("fields and elements of an object", places(new ExitFalls(), seen) <= 2400, true);
+        Check.due("objects and arrays of an object", seen.size() <= 60, true);
+    }
+
+    private static int places(Object of, Set<Object> seen) throws Exception {
+        if (of == null || !seen.add(of)) {
+            return 0;
+        }
+        if (of.getClass().isArray()) {
+            return Array.getLength(of);
+        }
+        int sum = 0;
+        for (Field f : of.getClass().getDeclaredFields()) {
+            if (!Modifier.isStatic(f.getModifiers())) {
+                f.setAccessible(true);
+                sum += 1 + (f.getType().isPrimitive() ? 0 : places(f.get(of), seen));
+            }
+        }
+        return sum;
     }
 
     private static void longMethods(String text) {
